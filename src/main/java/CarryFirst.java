@@ -889,16 +889,18 @@ public final class CarryFirst {
         }
     }
 
-    /** What ALL men save together. */
+    /**
+     * What ALL men save together. Who can bring a set out can bring each part of it out: what is saved of a
+     * set is all of it, or what is saved of it less one BUNDLE.
+     */
     private static final class Shares {
         private final Bags bags;
         private int men = 0;
         private int whole = 0;
-        private int most = 0;
-        /** Of each set: the men who can bring it out, as bits. */
+        /** Of each set: the men who can bring it out alone, as bits. */
         private final int[] able = new int[SETS];
-        /** Of each set: the most WORTH that man 1 and those behind him bring out of it; that man 2 does. */
-        private final int[][] gains = new int[MAX_MEN - 1][SETS];
+        /** Of each set: the most WORTH that man m and those behind him bring out of it. */
+        private final int[][] gains = new int[MAX_MEN][SETS];
 
         Shares(Bags bags) {
             this.bags = bags;
@@ -914,12 +916,15 @@ public final class CarryFirst {
                     if (bags.finish(atlas, m, part, minutes[m]) != NONE) able[part] |= 1 << m;
                 }
             }
-            for (int m = men - 1; m > 0; m--) fillGains(m);
-            most = men == 0 ? 0 : gain(0, whole);
+            for (int m = men - 1; m >= 0; m--) {
+                for (int part = 0; part <= whole; part++) {
+                    if ((part & ~whole) == 0) gains[m][part] = gain(m, part);
+                }
+            }
         }
 
         int most() {
-            return most;
+            return gainOf(0, whole);
         }
 
         int setOf(int man) {
@@ -927,29 +932,35 @@ public final class CarryFirst {
             int set = 0;
             for (int m = 0; m <= man; m++) {
                 left ^= set;
-                set = choose(m, left, m == 0 ? most : gainOf(m, left));
+                set = choose(m, left);
             }
             return set;
         }
 
-        private void fillGains(int m) {
-            for (int part = 0; part <= whole; part++) {
-                if ((part & ~whole) == 0) gains[m - 1][part] = gain(m, part);
-            }
-        }
-
-        /** The most WORTH that man m and those behind him bring out of a set. */
         private int gain(int m, int of) {
             int best = 0;
-            for (int i = 0, part = of; i <= of && best < bags.worth[of]; i++, part = (part - 1) & of) {
-                best = Math.max(best, gainWith(m, part, of));
+            boolean maybeAll = true;
+            for (int b = 0; b < MAX_BUNDLES; b++) {
+                int bit = 1 << b;
+                if ((of & bit) == 0) continue;
+                int less = gains[m][of ^ bit];
+                best = Math.max(best, less);
+                if (less < bags.worth[of ^ bit]) maybeAll = false;
             }
-            return best;
+            return maybeAll && savesAll(m, of) ? bags.worth[of] : best;
         }
 
-        private int choose(int m, int of, int due) {
+        private boolean savesAll(int m, int of) {
+            for (int i = 0, part = of; i <= of; i++, part = (part - 1) & of) {
+                if (gainWith(m, part, of) == bags.worth[of]) return true;
+            }
+            return false;
+        }
+
+        /** The least set for man m by which he and those behind him bring the most out of a set. */
+        private int choose(int m, int of) {
             for (int part = 0; part < of; part++) {
-                if ((part & ~of) == 0 && gainWith(m, part, of) == due) return part;
+                if ((part & ~of) == 0 && gainWith(m, part, of) == gainOf(m, of)) return part;
             }
             return of;
         }
@@ -960,9 +971,8 @@ public final class CarryFirst {
             return bags.worth[part] + gainOf(m + 1, of ^ part);
         }
 
-        /** What gain() was for man m, ahead of whom there is one; 0 where there is no man m. */
         private int gainOf(int m, int of) {
-            return m < men ? gains[m - 1][of] : 0;
+            return m < men ? gains[m][of] : 0;
         }
     }
 

@@ -12,11 +12,13 @@ public final class HouseTest {
         promise4Faults();
         promise4NothingChanges();
         promise4Anew();
+        promise4OneBehindAnother();
         promise5Way();
         promise6Bundle();
         promise7Tune();
         promise8Room();
         promise8Doors();
+        promise8ShutAsShort();
         promise28Count();
         Checks.end();
     }
@@ -97,6 +99,10 @@ public final class HouseTest {
         due("house() of nothing", x.house(), 0);
         due("count(0)", x.count(0), 1);
         due("count(1)", x.count(1), 0);
+        Checks.read(x, "rooms 7;");
+        Checks.read(x, "rooms 6;");
+        due("house() of nothing", x.house(), 0);
+        due("count(0)", x.count(0), 1);
         String ways = "rooms 2;" + "way 0 1 1;".repeat(6) + "way 0 1 1 door;".repeat(6);
         dueItems(ways, 13);
         dueItems("rooms 2;" + "bundle 0 1 1 1;".repeat(10) + "man 1;".repeat(3) + "fire 0 1;".repeat(4), 18);
@@ -118,6 +124,10 @@ public final class HouseTest {
         dueFault("rooms ;", 6);
         dueFault("rooms rooms;", 6);
         dueFault("Rooms 2;", 0);
+        dueFault("xooms 2;", 0);
+        dueFault("roomsz 2;", 0);
+        dueFault("roomsa 2;", 0);
+        dueFault("rooms 2;zan 1;", 8);
         dueFault("rooms -2;", 6);
         dueFault("rooms\t2;", 5);
         dueFault("rooms 2;" + (char) 233, 8);
@@ -153,6 +163,16 @@ public final class HouseTest {
         dueFault("rooms 2;fire 2 1;", 13);
         dueFault("rooms 2;fire 1 100;", 15);
         dueFault("rooms 2;fire 1 1 door;", 17);
+        // 400 bytes, up to the end
+        String long400 = "rooms 2;" + " ".repeat(387) + "man 1";
+        dueFault(long400, 400);
+        dueFault("rooms 2;" + " ".repeat(389) + "man", 400);
+        dueFault("rooms 2" + " ".repeat(393), 400);
+        dueItems("rooms 2;" + " ".repeat(392), 1);
+        // bytes that were there before are none of the text's
+        dueFaultBehind("rooms 22", "rooms 2", 7);
+        dueFaultBehind("rooms2", "room", 0);
+        dueFaultBehind("rooms  2;", "rooms ", 6);
         String one = "rooms 2;" + "way 0 1 1;".repeat(12);
         dueFault(one + "way 0 1 1;", one.length());
         String two = "rooms 2;" + "way 0 1 1 door;".repeat(6) + "way 0 1 1;way 0 1 1 ";
@@ -212,6 +232,33 @@ public final class HouseTest {
         due("chance(4, 4, 0)", x.chance(4, 4, 0), 3);
         long[] tunes = {9, 90, 0, 7, 0};
         for (int what = 0; what < 5; what++) due("tune(" + what + ", 1)", x.tune(what, 1), tunes[what]);
+    }
+
+    private static void promise4OneBehindAnother() {
+        String big = "rooms 8;way 0 1 1 door;way 0 1 1 door;way 0 1 1 door;way 0 1 1 door;way 0 1 1 door;way 0 1 1 door;"
+            + "bundle 7 1 1 1;bundle 1 30 2 1;bundle 0 3 3 1;man 30;man 2;man 3;fire 1 0;fire 1 0;fire 1 0;fire 1 0;";
+        String small = "rooms 3;way 0 2 1;way 1 2 2 door;bundle 0 1 9 1;bundle 2 2 7 1;man 2;";
+        CarryFirst x = Checks.in(big);
+        for (int i = 0; i < 5; i++) {
+            Checks.read(x, small);
+            long[] counts = {3, 2, 2, 1, 0};
+            for (int what = 0; what < 5; what++) due("count(" + what + ")", x.count(what), counts[what]);
+            due("tune(4, 4095)", x.tune(4, 4095), 0);
+            due("tune(4, 0)", x.tune(4, 0), 2);
+            due("way(0, 3)", x.way(0, 3), 0);
+            due("room(1, 0)", x.room(1, 0), 3);
+            due("room(2, 2)", x.room(2, 2), -9);
+            due("place(0, 1)", x.place(0, 1), 0);
+            due("place(1, 1)", x.place(1, 1), 2);
+            due("one(0, 1)", x.one(0, 1), 3);
+            due("all(0)", x.all(0), 3);
+            due("run(1, 1, 1)", x.run(1, 1, 1), 3);
+            // a fault, too, leaves nothing behind
+            Checks.type(x, big + "x");
+            due("house() of a fault", x.house(), -10 - big.length());
+            x.clear();
+            if (i % 2 == 1) Checks.read(x, big);
+        }
     }
 
     private static void promise5Way() {
@@ -297,6 +344,14 @@ public final class HouseTest {
         dueRooms(x, new long[][] {{0, -9, 45, 43}, {-9, -9, 30, 28}, {20, 0, 45, 43}});
     }
 
+    private static void promise8ShutAsShort() {
+        // the WAY that is SHUT would be as short as the PATH, and from a lesser ROOM
+        CarryFirst x = Checks.in("rooms 3;way 0 1 5 door;way 0 2 2;way 2 1 3;");
+        dueRooms(x, new long[][] {{0, -9, -9, -9}, {5, 0, -9, -9}, {2, 0, -9, -9}});
+        x.tune(4, 1);
+        dueRooms(x, new long[][] {{0, -9, -9, -9}, {5, 2, -9, -9}, {2, 0, -9, -9}});
+    }
+
     private static void promise28Count() {
         CarryFirst x = Checks.in(FLAT);
         Checks.type(x, "abc");
@@ -320,7 +375,13 @@ public final class HouseTest {
     }
 
     private static void dueFault(String text, int place) {
+        dueFaultBehind("", text, place);
+    }
+
+    private static void dueFaultBehind(String before, String text, int place) {
         CarryFirst x = new CarryFirst();
+        Checks.type(x, before);
+        x.clear();
         Checks.type(x, text);
         due("house() of " + text, x.house(), -10 - place);
         due("count(5) after " + text, x.count(5), text.length());

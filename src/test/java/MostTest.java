@@ -57,6 +57,7 @@ public final class MostTest {
             + "man 6;fire 0 7;");
         // one FETCHING alone; 9 by set 16, or by 12
         dueOne("one FETCHING", x, 0, 9, 12, 12, 4);
+        dueOne("worth nothing in ROOM 0", Checks.in("rooms 1;bundle 0 1 0 0;bundle 0 1 5 0;man 2;"), 0, 5, 2, 2, 0);
         dueOne("worth nothing", Checks.in("rooms 1;bundle 0 1 0 0;man 1;"), 0, 0, 0, 0, 0);
     }
 
@@ -66,6 +67,11 @@ public final class MostTest {
         // 1 first would need three times
         dueOne("fewest MINUTES first", Checks.in("rooms 2;way 0 1 2;bundle 1 2 1 0;bundle 1 5 1 0;bundle 1 4 1 0;man 7;"), 0,
             3, 7, 2, 8);
+        // twice will do, but not with the two heavy ones together
+        dueOne("not too heavy", Checks.in("rooms 2;way 0 1 2;bundle 1 3 1 0;bundle 1 3 1 0;bundle 1 2 1 0;bundle 1 2 1 0;man 5;"), 0,
+            4, 15, 5, 8);
+        dueOne("of one ROOM", Checks.in("rooms 3;way 0 1 1;way 0 2 1;bundle 1 1 1 0;bundle 2 1 1 0;bundle 1 1 1 0;man 2;fire 1 4;"),
+            0, 3, 7, 5, 4);
         // no time passes for ROOM 0: a single BUNDLE may be first
         dueOne("ROOM 0", Checks.in("rooms 1;bundle 0 1 1 0;bundle 0 1 1 0;man 2;"), 0, 2, 3, 1, 0);
         // the least must wait, as the other ROOM is left first
@@ -99,6 +105,8 @@ public final class MostTest {
         CarryFirst none = Checks.in("rooms 1;bundle 0 1 1 1;");
         due("all(-1)", none.all(-1), 0);
         due("all(0)", none.all(0), -1);
+        dueAll("too weak", Checks.in("rooms 1;bundle 0 5 3 0;man 1;man 9;"), 3, 0, 1);
+        dueAll("too weak", Checks.in("rooms 1;bundle 0 5 3 0;man 1;man 1;man 9;"), 3, 0, 0, 1);
         dueAll("alone", Checks.in("rooms 1;bundle 0 2 3 0;bundle 0 9 4 0;man 8;"), 3, 1);
     }
 
@@ -151,6 +159,8 @@ public final class MostTest {
         dueRun("least ROOM", y, 2, 1, 5, 4, 4);
         CarryFirst never = Checks.in("rooms 3;way 0 1 1 door;way 0 2 2;bundle 1 30 1 0;bundle 2 30 1 0;");
         dueRun("never left", never, 0, 1, 2, 3, 7);
+        dueRun("the first is rich", Checks.in("rooms 3;way 0 1 2;way 0 2 2;bundle 2 1 9 0;bundle 1 1 5 0;fire 0 7;"), 1, 1, 9, 1, 4);
+        dueRun("hardly rich", Checks.in("rooms 3;way 0 1 2;way 0 2 2;bundle 1 1 0 0;bundle 2 1 1 0;fire 0 7;"), 1, 1, 1, 2, 4);
         // by WORTH, of several the first, each that can be carried with those before
         dueRun("greedy", Checks.in("rooms 2;way 0 1 2;bundle 1 20 3 0;bundle 1 11 4 0;bundle 1 10 3 0;bundle 1 9 1 0;fire 0 7;"),
             0, 1, 8, 14, 4);
@@ -167,6 +177,13 @@ public final class MostTest {
         dueRun("two a MINUTE", x, 0, 5, 5, 31, 6);
         x.tune(3, 9);
         dueRun("nine a MINUTE", x, 0, 5, 5, 31, 4);
+        CarryFirst hall = Checks.in("rooms 1;" + "bundle 0 30 1 0;".repeat(10));
+        dueRun("out in 0, 1, ..", hall, 0, 1, 10, 1023, 9);
+        dueRun("two in 0, 1, ..", hall, 0, 9, 10, 1023, 4);
+        hall.tune(3, 1);
+        dueRun("one in 0, 1, ..", hall, 1, 9, 10, 1023, 9);
+        hall.tune(3, 9);
+        dueRun("nine in 0, one in 1", hall, 2, 9, 10, 1023, 1);
         // one who is back sooner, but set out later, finds a MINUTE between
         CarryFirst y = Checks.in("rooms 3;way 0 1 5;way 0 2 2;bundle 2 30 9 0;bundle 1 30 8 0;bundle 0 30 7 0;bundle 2 30 1 0;");
         y.tune(3, 1);
@@ -195,6 +212,7 @@ public final class MostTest {
         due("doors(0)", x.doors(0), 2);
         due("doors(1)", x.doors(1), 11);
         due("one(0, 0)", x.one(0, 0), 0);
+        due("doors(1), in MINUTE 0 alone", Checks.in("rooms 2;way 0 1 2;bundle 1 1 4 0;man 1;fire 0 7;").doors(1), 4);
         x.tune(1, 0);
         due("doors(0) without HOLD", x.doors(0), 0);
         due("doors(1) without HOLD", x.doors(1), 0);
