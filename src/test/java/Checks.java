@@ -41,4 +41,30 @@ final class Checks {
         long items = text.chars().filter(c -> c == ';').count();
         due("house() of " + text, x.house(), items);
     }
+
+    /** A text that is right, of a new object. */
+    static void dueItems(String text, int items) {
+        CarryFirst x = new CarryFirst();
+        type(x, text);
+        due("house() of " + text, x.house(), items);
+        due("count(5) after " + text, x.count(5), 0);
+    }
+
+    /** MOST, the set, the FIRST FETCHING, the MINUTE. */
+    static void dueOne(String name, CarryFirst x, int man, int... want) {
+        for (int what = 0; what < 4; what++) due(name + ": one(" + man + ", " + what + ")", x.one(man, what), want[what]);
+    }
+
+    /** MOST, the set of each man. */
+    static void dueAll(String name, CarryFirst x, int... want) {
+        for (int m = -1; m < want.length - 1; m++) due(name + ": all(" + m + ")", x.all(m), want[m + 1]);
+        due(name + ": all() of one more", x.all(want.length - 1), -1);
+    }
+
+    /** SAVED, the set, ENDS. */
+    static void dueRun(String name, CarryFirst x, int rule, int n, int... want) {
+        for (int what = 0; what < 3; what++) {
+            due(name + ": run(" + rule + ", " + n + ", " + what + ")", x.run(rule, n, what), want[what]);
+        }
+    }
 }

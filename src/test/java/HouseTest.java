@@ -88,13 +88,13 @@ public final class HouseTest {
     }
 
     private static void promise4House() {
-        dueItems("", 0);
-        dueItems("   ", 0);
-        dueItems("rooms 8;", 1);
-        dueItems("  rooms  8  ;  ", 1);
-        dueItems("rooms8;way0 7 30door;bundle7 99 99 10;man99;fire7 99;", 5);
-        dueItems("rooms 1;bundle 0 1 0 0;fire 0 0;man 1;", 4);
-        dueItems("rooms 2;way 0 1 1;way 1 0 1;way 0 1 30 door;", 4);
+        Checks.dueItems("", 0);
+        Checks.dueItems("   ", 0);
+        Checks.dueItems("rooms 8;", 1);
+        Checks.dueItems("  rooms  8  ;  ", 1);
+        Checks.dueItems("rooms8;way0 7 30door;bundle7 99 99 10;man99;fire7 99;", 5);
+        Checks.dueItems("rooms 1;bundle 0 1 0 0;fire 0 0;man 1;", 4);
+        Checks.dueItems("rooms 2;way 0 1 1;way 1 0 1;way 0 1 30 door;", 4);
         CarryFirst x = Checks.in("rooms 2;way 0 1 3;");
         due("house() of nothing", x.house(), 0);
         due("count(0)", x.count(0), 1);
@@ -104,8 +104,8 @@ public final class HouseTest {
         due("house() of nothing", x.house(), 0);
         due("count(0)", x.count(0), 1);
         String ways = "rooms 2;" + "way 0 1 1;".repeat(6) + "way 0 1 1 door;".repeat(6);
-        dueItems(ways, 13);
-        dueItems("rooms 2;" + "bundle 0 1 1 1;".repeat(10) + "man 1;".repeat(3) + "fire 0 1;".repeat(4), 18);
+        Checks.dueItems(ways, 13);
+        Checks.dueItems("rooms 2;" + "bundle 0 1 1 1;".repeat(10) + "man 1;".repeat(3) + "fire 0 1;".repeat(4), 18);
     }
 
     private static void promise4Faults() {
@@ -168,7 +168,7 @@ public final class HouseTest {
         dueFault(long400, 400);
         dueFault("rooms 2;" + " ".repeat(389) + "man", 400);
         dueFault("rooms 2" + " ".repeat(393), 400);
-        dueItems("rooms 2;" + " ".repeat(392), 1);
+        Checks.dueItems("rooms 2;" + " ".repeat(392), 1);
         // bytes that were there before are none of the text's
         dueFaultBehind("rooms 22", "rooms 2", 7);
         dueFaultBehind("rooms2", "room", 0);
@@ -365,13 +365,6 @@ public final class HouseTest {
         for (int r = 0; r < rows.length; r++) {
             for (int what = 0; what < 4; what++) due("room(" + r + ", " + what + ")", x.room(r, what), rows[r][what]);
         }
-    }
-
-    private static void dueItems(String text, int items) {
-        CarryFirst x = new CarryFirst();
-        Checks.type(x, text);
-        due("house() of " + text, x.house(), items);
-        due("count(5) after " + text, x.count(5), 0);
     }
 
     private static void dueFault(String text, int place) {

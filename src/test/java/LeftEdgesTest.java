@@ -35,6 +35,7 @@ public final class LeftEdgesTest {
         imagesAreTwo();
         imagesKeptAgain();
         aHouseReadAnew();
+        anotherHouse();
         Checks.end();
     }
 
@@ -618,5 +619,35 @@ public final class LeftEdgesTest {
         due("saved(1)", x.saved(1), 0);
         due("saved(2)", x.saved(2), 0);
         due("trace()", x.trace(), 100001);
+    }
+
+    private static void anotherHouse() {
+        // the BUNDLES in other ROOMS, other men, other WAYS; there and back
+        String first = "rooms 3;way 0 1 1;way 0 2 5 door;bundle 1 2 3 1;bundle 1 2 4 1;bundle 2 2 5 1;man 6;man 2;fire 0 90;";
+        String second = "rooms 3;way 0 2 4 door;way 0 1 3;bundle 2 3 9 1;bundle 1 3 8 1;bundle 2 3 9 1;man 3;";
+        CarryFirst x = Checks.in(first);
+        for (int i = 0; i < 3; i++) {
+            int[] one = {12, 7, 3, 12};
+            due("first house: why(0, 3)", x.why(0, 3), 0);
+            due("first house: why(0, 5)", x.why(0, 5), 2);
+            due("first house: why(1, 3)", x.why(1, 3), 1);
+            for (int what = 0; what < 4; what++) due("first house: one(0, " + what + ")", x.one(0, what), one[what]);
+            due("first house: all(1)", x.all(1), 7);
+            due("first house: run(1, 1, 2)", x.run(1, 1, 2), 13);
+            due("first house: place(2, 2)", x.place(2, 2), 2);
+            due("first house: lost(93, 0)", x.lost(93, 0), 7);
+            Checks.read(x, second);
+            int[] other = {26, 7, 1, 22};
+            due("second house: why(0, 3)", x.why(0, 3), 1);
+            due("second house: why(0, 5)", x.why(0, 5), 1);
+            for (int what = 0; what < 4; what++) due("second house: one(0, " + what + ")", x.one(0, what), other[what]);
+            due("second house: all(0)", x.all(0), 7);
+            due("second house: all(1)", x.all(1), -1);
+            due("second house: run(1, 1, 2)", x.run(1, 1, 2), 15);
+            due("second house: place(2, 2)", x.place(2, 2), 0);
+            due("second house: place(1, 2)", x.place(1, 2), 1);
+            due("second house: lost(999, 0)", x.lost(999, 0), 0);
+            Checks.read(x, first);
+        }
     }
 }

@@ -6,6 +6,7 @@ public final class TextEdgesTest {
         " rooms 3 ;  way 0 1 30 door ; way 1 2 1 ; bundle 2 99 99 10 ; man 99 ; fire 0 99 ; ";
 
     public static void main(String[] args) {
+        theLowestBytesTheHighestFirst();
         fourHundredBytesAtMost();
         roomsEightAtMost();
         waysTwelveAtMost();
@@ -38,13 +39,6 @@ public final class TextEdgesTest {
         Checks.due(call, got, want);
     }
 
-    private static void dueItems(String text, int items) {
-        CarryFirst x = new CarryFirst();
-        Checks.type(x, text);
-        due("house() of " + text, x.house(), items);
-        due("count(5) after " + text, x.count(5), 0);
-    }
-
     private static void dueFault(String text, int place) {
         CarryFirst x = new CarryFirst();
         Checks.type(x, text);
@@ -58,7 +52,35 @@ public final class TextEdgesTest {
         dueFault(right + token + " 1;", right.length());
     }
 
-    // ---- how much may be told
+    // ---- how it is typed, how much may be told
+
+    private static void theLowestBytesTheHighestFirst() {
+        for (int n = 1; n <= 8; n++) {
+            // what stands above the lowest n bytes is none of the text's
+            for (long above : new long[] {0, -1, 0x3b3b3b3b3b3b3b3bL}) {
+                CarryFirst x = new CarryFirst();
+                String text = FULL_TEXT + " ".repeat(8 - FULL_TEXT.length() % 8);
+                int typed = 0;
+                while (typed < text.length()) {
+                    int many = Math.min(n, text.length() - typed);
+                    long v = above;
+                    for (int i = 0; i < many; i++) v = v << 8 | text.charAt(typed + i);
+                    typed += many;
+                    due("type(" + v + ", " + many + ")", x.type(v, many), typed);
+                }
+                due("house() typed by " + n, x.house(), 6);
+                due("bundle(0, 3)", x.bundle(0, 3), 10);
+            }
+        }
+        // bytes of 128 and above are such, whatever the sign of v
+        CarryFirst y = new CarryFirst();
+        due("type(-1, 8)", y.type(-1, 8), 8);
+        due("type(Long.MIN_VALUE, 8)", y.type(Long.MIN_VALUE, 8), 16);
+        due("house()", y.house(), -10);
+        due("clear()", y.clear(), 16);
+        due("type(.. 32, 1)", y.type(Long.MIN_VALUE | ' ', 1), 1);
+        due("house() of a blank", y.house(), 0);
+    }
 
     private static void fourHundredBytesAtMost() {
         CarryFirst x = new CarryFirst();
@@ -154,15 +176,15 @@ public final class TextEdgesTest {
     // ---- what stands in a text
 
     private static void itemsNone() {
-        dueItems("", 0);
-        dueItems(" ", 0);
-        dueItems(" ".repeat(400), 0);
+        Checks.dueItems("", 0);
+        Checks.dueItems(" ", 0);
+        Checks.dueItems(" ".repeat(400), 0);
         CarryFirst x = Checks.in(FULL_TEXT);
         due("house() of nothing", x.house(), 0);
         for (int what = 0; what < 6; what++) due("count(" + what + ")", x.count(what), what == 0 ? 1 : 0);
         due("room(0, 2)", x.room(0, 2), -9);
         // rooms alone
-        dueItems("rooms 1;", 1);
+        Checks.dueItems("rooms 1;", 1);
     }
 
     private static void itemsInAnyOrder() {
@@ -176,9 +198,9 @@ public final class TextEdgesTest {
     }
 
     private static void blanksAsMayBe() {
-        dueItems("     rooms     3     ;     man     7     ;     ", 2);
-        dueItems("rooms 3;" + " ".repeat(385) + "man 8;", 2);
-        dueItems(FULL_TEXT, 6);
+        Checks.dueItems("     rooms     3     ;     man     7     ;     ", 2);
+        Checks.dueItems("rooms 3;" + " ".repeat(385) + "man 8;", 2);
+        Checks.dueItems(FULL_TEXT, 6);
         // one within a TOKEN makes two of it
         dueFault("ro oms 3;", 0);
         dueFault("rooms 3;man 7 7;", 14);
@@ -186,7 +208,7 @@ public final class TextEdgesTest {
     }
 
     private static void blanksNoneNeeded() {
-        dueItems("rooms3;way0 1 30door;way1 2 1;bundle2 99 99 10;man99;fire0 99;", 6);
+        Checks.dueItems("rooms3;way0 1 30door;way1 2 1;bundle2 99 99 10;man99;fire0 99;", 6);
         // but between two NUMBERS, and between two words
         dueFault("rooms3;fire0;", 12);
         dueFault("rooms3;way01 1;", 10);
@@ -229,7 +251,7 @@ public final class TextEdgesTest {
         int items = (int) (ahead + behind).chars().filter(c -> c == ';').count();
         for (int n = 0; n <= 101; n++) {
             String text = ahead + n + behind;
-            if (n >= least && n <= most) dueItems(text, items);
+            if (n >= least && n <= most) Checks.dueItems(text, items);
             else dueFault(text, ahead.length());
         }
     }
@@ -240,7 +262,7 @@ public final class TextEdgesTest {
                 String text = ROOMS + "way " + a + " " + b + " 1;";
                 if (a > 2) dueFault(text, 12);
                 else if (b > 2 || b == a) dueFault(text, 14);
-                else dueItems(text, 2);
+                else Checks.dueItems(text, 2);
             }
         }
     }
@@ -263,7 +285,7 @@ public final class TextEdgesTest {
             dueFault(ROOMS + "fire " + n + " 1;", 13);
             dueFault(ROOMS + "bundle 0 1 1 " + n + ";", 21);
         }
-        dueItems(ROOMS + "fire 0 0;bundle 0 10 0 0;", 3);
+        Checks.dueItems(ROOMS + "fire 0 0;bundle 0 10 0 0;", 3);
     }
 
     // ---- words and other bytes
@@ -294,9 +316,9 @@ public final class TextEdgesTest {
             String sign = String.valueOf((char) c);
             boolean inToken = c >= 'a' && c <= 'z' || c >= '0' && c <= '9';
             if (c == ' ') {
-                dueItems(ROOMS + sign, 1);
-                dueItems("rooms" + sign + "3;", 1);
-                dueItems("rooms 3" + sign + ";", 1);
+                Checks.dueItems(ROOMS + sign, 1);
+                Checks.dueItems("rooms" + sign + "3;", 1);
+                Checks.dueItems("rooms 3" + sign + ";", 1);
                 continue;
             }
             dueFault(sign, 0);
@@ -321,7 +343,7 @@ public final class TextEdgesTest {
         for (String ahead : ends) {
             for (String word : words) if (!word.equals(";")) dueFault(ahead + word + ";", ahead.length());
             dueFault(ahead + "1;", ahead.length());
-            dueItems(ahead + ";", ahead.contains(";") ? 2 : 1);
+            Checks.dueItems(ahead + ";", ahead.contains(";") ? 2 : 1);
         }
         // where an ITEM is due
         dueFaultBehind(ROOMS, ";");
@@ -350,7 +372,7 @@ public final class TextEdgesTest {
             String part = text.substring(0, n);
             int items = (int) part.chars().filter(c -> c == ';').count();
             for (String blanks : new String[] {"", " ", "     "}) {
-                if (part.endsWith(";")) dueItems(part + blanks, items);
+                if (part.endsWith(";")) Checks.dueItems(part + blanks, items);
                 else dueFault(part + blanks, n + blanks.length());
             }
         }
