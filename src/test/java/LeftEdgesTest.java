@@ -649,5 +649,19 @@ public final class LeftEdgesTest {
             due("second house: lost(999, 0)", x.lost(999, 0), 0);
             Checks.read(x, first);
         }
+        // of two that were in one ROOM either is in another now
+        for (int r = 0; r < 2; r++) {
+            String both = "rooms 2;way 0 1 3;" + ("bundle " + r + " 1 1 1;").repeat(2) + "man 2;";
+            CarryFirst y = Checks.in(both);
+            due("both in " + r, y.why(0, 3), 0);
+            Checks.read(y, "rooms 2;way 0 1 3;bundle " + r + " 1 1 1;bundle " + (1 - r) + " 1 1 1;man 2;");
+            due("the first in " + r, y.why(0, 3), 2);
+            due("the first in " + r, y.one(0, 3), 6);
+            Checks.read(y, "rooms 2;way 0 1 3;bundle " + (1 - r) + " 1 1 1;bundle " + r + " 1 1 1;man 2;");
+            due("the second in " + r, y.why(0, 3), 2);
+            due("the second in " + r, y.one(0, 3), 6);
+            Checks.read(y, both);
+            due("both in " + r, y.why(0, 3), 0);
+        }
     }
 }
