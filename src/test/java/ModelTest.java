@@ -19,7 +19,7 @@ public final class ModelTest {
 
     private void go(int run) {
         for (int i = 0; i < CALLS; i++) {
-            if (i % 60 == 0) typeHouse(run % 13 == 12 ? 10 : 6);
+            if (i % 60 == 0) readHouse(run % 20 == 19 ? fullHouse() : anyHouse(run % 13 == 12 ? 10 : 6));
             call(run);
         }
     }
@@ -39,7 +39,7 @@ public final class ModelTest {
         return upTo(12) == 0 ? from(least - 2, most + 2) : from(least, Math.max(least, most));
     }
 
-    private void typeHouse(int mostBundles) {
+    private StringBuilder anyHouse(int mostBundles) {
         StringBuilder s = new StringBuilder();
         int rooms = upTo(5) == 0 ? from(1, 8) : from(3, 7);
         s.append("rooms ").append(rooms).append(';');
@@ -71,6 +71,31 @@ public final class ModelTest {
         }
         if (s.length() > 400) s.setLength(400);
         if (upTo(6) == 0) spoil(s);
+        return s;
+    }
+
+    /** As much of all as a house may have. */
+    private StringBuilder fullHouse() {
+        StringBuilder s = new StringBuilder("rooms8;");
+        int longest = upTo(3) == 0 ? 30 : from(1, 5);
+        for (int w = 0; w < 12; w++) {
+            int a = w < 7 ? w + 1 : upTo(8);
+            int b = w < 7 ? upTo(w + 1) : (a + from(1, 7)) % 8;
+            s.append("way").append(a).append(' ').append(b).append(' ').append(from(1, longest));
+            s.append(w % 2 == 0 ? "door;" : ";");
+        }
+        int heaviest = upTo(3) == 0 ? 99 : from(9, 40);
+        int rooms = from(1, 8);
+        for (int b = 0; b < 10; b++) {
+            s.append("bundle").append(upTo(rooms)).append(' ').append(from(1, heaviest)).append(' ');
+            s.append(upTo(upTo(2) == 0 ? 5 : 100)).append(' ').append(upTo(11)).append(';');
+        }
+        for (int m = 0; m < 3; m++) s.append("man").append(from(heaviest / 2, heaviest)).append(';');
+        for (int f = 0; f < 4; f++) s.append("fire").append(upTo(8)).append(' ').append(upTo(100)).append(';');
+        return s;
+    }
+
+    private void readHouse(StringBuilder s) {
         same("clear()", x.clear(), model.clear());
         for (int i = 0; i < s.length(); i += 8) {
             int n = Math.min(8, s.length() - i);
@@ -162,7 +187,7 @@ public final class ModelTest {
     private void callOfMost(int run) {
         int man = someMan();
         int what = near(0, 3);
-        switch (upTo(run % 4 == 0 ? 4 : 3)) {
+        switch (upTo(run % 4 == 0 || run % 40 == 39 ? 4 : 3)) {
             case 0: same("one(" + man + ", " + what + ")", x.one(man, what), model.one(man, what)); break;
             case 1: {
                 int m = near(-1, model.men.size() - 1);
